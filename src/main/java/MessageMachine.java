@@ -69,7 +69,7 @@ public final class MessageMachine {
     private static final int SORT_OBJECT = 4;
     private static final int SORT_SHIFT = 32;
     private static final long LOWER_HALF = 0xFFFFFFFFL;
-    private static final long NIL_VALUE = 1L << SORT_SHIFT;
+    private static final long NIL_VALUE = (long) SORT_NIL << SORT_SHIFT;
 
     // Every object, every block and every activation but the main one costs a
     // turn, so a run can't make more of them than this.
@@ -844,7 +844,6 @@ public final class MessageMachine {
         for (int i = 0; i < MOST_THINGS; i++) {
             thingReached[i] = false;
         }
-        waitingSize = 0;
         noteReached(result);
         for (int i = 0; i < MOST_THINGS && waitingSize > 0; i++) {
             long value = pop();

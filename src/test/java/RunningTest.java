@@ -9,6 +9,7 @@ public final class RunningTest {
 
     public static void main(String[] args) {
         values();
+        firstQuestions();
         arithmetic();
         sameness();
         order();
@@ -84,10 +85,47 @@ public final class RunningTest {
         check.due("a set of another variable", plain("(then (set 3 7) v4)").kind(), 1);
         check.due("block", plain("(block -1 1)").kind(), 3);
         check.due("the value of a block", plain("(block -1 1)").value(), 0);
+        check.due("the value of a later block", plain("(then (block -1 1) (block -1 1))").value(), 0);
         for (int c = 0; c < 3; c++) {
             check.due("object", family("(new " + c + ")").kind(), 4 + c);
             check.due("the value of an object", family("(new " + c + ")").value(), 0);
+            check.due("the value of a later object", family("(then (new 0) (new 1) (new " + c + "))").value(), 0);
         }
+    }
+
+    /** Each question as the first one about a run, on a new object and after a change. */
+    private static void firstQuestions() {
+        String main = "(then (print 6) (call (block -1 nil)) (new 1) 8)";
+        check.due("run first", family("(+ nil 1)").run(), STUCK);
+        check.due("kind first", family(main).kind(), 2);
+        check.due("value first", family(main).value(), 8);
+        check.due("printed first", family(main).printed(), 1);
+        check.due("output first", family(main).output(0), 6);
+        check.due("turns first", family(main).turns(), 3);
+        check.due("deepest first", family(main).deepest(), 1);
+        check.due("made first", family(main).made(1), 1);
+        check.due("reach first", family("(new 1)").reach(), 1);
+        MessageMachine m = family(main);
+        Program p = new Program(m);
+        m.run();
+        p.main("(then (print 7) (print 8))");
+        check.due("printed after a change", m.printed(), 2);
+        p.main("(print 9)");
+        check.due("output after a change", m.output(0), 9);
+        p.main("(new 2)");
+        check.due("turns after a change", m.turns(), 1);
+        p.main("(call (block -1 (call (block -1 1))))");
+        check.due("deepest after a change", m.deepest(), 2);
+        p.main("(then (new 2) (new 2))");
+        check.due("made after a change", m.made(2), 2);
+        p.main("(new 0)");
+        check.due("reach after a change", m.reach(), 1);
+        p.main("nil");
+        check.due("kind after a change", m.kind(), 1);
+        p.main("-3");
+        check.due("value after a change", m.value(), -3);
+        p.main("self");
+        check.due("made after another one", m.made(2), 0);
     }
 
     private static void arithmetic() {
@@ -497,6 +535,12 @@ public final class RunningTest {
             check.due("made(" + c + ")", m.made(c), 0);
         }
         check.due("made in a run that is STUCK", family("(then (new 2) (+ (new 0) 1))").made(2), 1);
+        m = family("(loop 1 (then" + " (new 2)".repeat(30) + "))");
+        ends("as many objects as turns allow", m, TIRED, 200);
+        check.due("as many objects as turns allow", m.made(2), 193);
+        m = family("(then (set 0 6) (loop v0 (then" + " (set 1 (new 2))".repeat(12) + " (set 2 (block -1 v2)) (set 0 (- v0 1)))) v2)");
+        ends("many things", m, DONE, 84);
+        check.due("many things", m.reach(), 1);
         m = family("(loop 1 (new 1))");
         ends("new until TIRED", m, TIRED, 200);
         check.due("made in a run that is TIRED", m.made(1), 100);
@@ -532,6 +576,12 @@ public final class RunningTest {
         check.due("a block that keeps the variable with the object", m.reach(), 2);
         p.method(0, 1, "(then (set 5 (new 2)) (set 1 v0) (block -1 1))").main("(then (set 4 (new 2)) (send 1 (new 0) (send 1 (new 0) nil)))");
         check.due("a block in a variable of another one's activation", m.reach(), 4);
+        m = new MessageMachine();
+        p = family(m).method(0, 2, "(then (setf 0 v0) (setf 1 v1) self)");
+        p.main("(then (send 2 (new 0) (new 2) (new 2)) (block -1 1))");
+        check.due("not the variables of another activation", m.reach(), 0);
+        p.main("(then (set 0 (new 0)) (send 2 (new 0) (new 2) (new 2)) v0)");
+        check.due("not the fields of another object", m.reach(), 1);
     }
 
     private static void tidy() {
