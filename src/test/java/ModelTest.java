@@ -452,7 +452,7 @@ public final class ModelTest {
 
     /** Any calls with any arguments, many of them wrong. */
     private void wild() {
-        for (int i = 0; i < 400 && same; i++) {
+        for (int i = 0; i < 512 && same; i++) {
             int k = wildNumber();
             int kind = random.nextInt(20) == 0 ? wildNumber() : random.nextInt(10);
             int which = random.nextInt(40);

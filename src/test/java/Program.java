@@ -26,6 +26,27 @@ final class Program {
         return m;
     }
 
+    /** Makes a machine by lines: class PARENT OWN, method C S TERM, main TERM, push TERM. */
+    static MessageMachine of(String... lines) {
+        MessageMachine m = new MessageMachine();
+        Program program = new Program(m);
+        for (String line : lines) {
+            program.line(line);
+        }
+        return m;
+    }
+
+    private void line(String line) {
+        String[] parts = line.split(" ", 4);
+        switch (parts[0]) {
+            case "class": newClass(Integer.parseInt(parts[1]), Integer.parseInt(parts[2])); break;
+            case "method": method(Integer.parseInt(parts[1]), Integer.parseInt(parts[2]), parts[3]); break;
+            case "main": main(line.substring(5)); break;
+            case "push": push(line.substring(5)); break;
+            default: throw new IllegalStateException("no such line: " + line);
+        }
+    }
+
     Program main(String text) {
         push(text);
         require(machine.main());
