@@ -13,6 +13,7 @@ public final class CallEdgesTest {
 
     public static void main(String[] args) {
         aNewObject();
+        classesInOrder();
         parentOfNewClass();
         ownOfNewClass();
         fieldsOfNewClass();
@@ -176,6 +177,22 @@ public final class CallEdgesTest {
         return "(send " + s + " " + receiver + (s % 3 > 0 ? " 1" : "") + (s % 3 > 1 ? " 2" : "") + ")";
     }
 
+    private static void classesInOrder() {
+        check.said("CLASSES are numbered 0, 1, .. in the order in which they were made, at most 6; a class may have a class made earlier as its PARENT.");
+        MessageMachine m = new MessageMachine();
+        for (int c = 0; c < 6; c++) {
+            check.due("class " + c + " as its own parent", m.newClass(c, 0), BAD_ARG);
+            check.due("a class made later as the parent of class " + c, m.newClass(c + 1, 0), BAD_ARG);
+            check.due("class " + c + " with the first one as parent", m.newClass(c == 0 ? -1 : 0, 0), c);
+        }
+        check.due("a seventh", m.newClass(0, 0), FULL);
+        for (int c = 0; c < 6; c++) {
+            new Program(m).main("(is 0 (new " + c + "))");
+            check.due("class " + c + " has the first one as parent", m.value(), 1);
+            check.due("an object of class " + c, m.made(c), 1);
+        }
+    }
+
     private static void parentOfNewClass() {
         check.said("Tested in this order: parent not -1 or a class, own not 0 to 4, or its objects would have more than 4 fields, answers BAD_ARG;");
         for (int n = 0; n <= 6; n++) {
@@ -235,7 +252,7 @@ public final class CallEdgesTest {
         for (int own = 0; own <= 4; own++) {
             refused("newClass", NEW_CLASS, -1, own, "as the seventh", () -> Machines.sixClasses(2), FULL);
         }
-        refused("newClass", NEW_CLASS, 5, 4, "as the seventh", () -> Machines.sixClasses(2), FULL);
+        refused("newClass", NEW_CLASS, 4, 4, "as the seventh", () -> Machines.sixClasses(2), FULL);
         refused("newClass", NEW_CLASS, 0, 2, "as the seventh", () -> Machines.sixClasses(2), FULL);
         m.forget();
         check.due("the first after forget", m.newClass(-1, 0), 0);
@@ -250,7 +267,7 @@ public final class CallEdgesTest {
         refused("newClass", NEW_CLASS, -1, -1, "as the seventh", six, BAD_ARG);
         refused("newClass", NEW_CLASS, -1, 5, "as the seventh", six, BAD_ARG);
         refused("newClass", NEW_CLASS, 3, 1, "as the seventh", six, BAD_ARG);
-        refused("newClass", NEW_CLASS, 4, 1, "as the seventh", six, BAD_ARG);
+        refused("newClass", NEW_CLASS, 5, 1, "as the seventh", six, BAD_ARG);
         refused("newClass", NEW_CLASS, 2, 2, "as the seventh", six, BAD_ARG);
     }
 
@@ -559,14 +576,27 @@ public final class CallEdgesTest {
             }
         }
         for (int s = 0; s < 6; s++) {
-            MessageMachine m = Program.of("class -1 1", "class 0 1", "method 0 " + s + " 5", "method 1 " + s + " 6");
-            m.forget();
-            new Program(m).newClass(-1, 0).newClass(-1, 4).main(send(s, "(new 0)"));
+            noMethodAfterForget(s);
+        }
+    }
+
+    private static void noMethodAfterForget(int s) {
+        MessageMachine m = Program.of("class -1 1", "class 0 1", "class 1 1", "class 2 1", "class 3 0", "class 4 0");
+        Program p = new Program(m);
+        for (int c = 0; c < 6; c++) {
+            p.method(c, s, "5");
+        }
+        m.forget();
+        for (int c = 0; c < 6; c++) {
+            check.due("class " + c + " after forget", m.newClass(-1, 0), c);
+        }
+        for (int c = 0; c < 6; c++) {
+            p.main(send(s, "(new " + c + ")"));
             check.due("no method for " + s + " after forget", m.run(), MessageMachine.STUCK);
-            new Program(m).main(send(s, "(new 1)"));
-            check.due("no method for " + s + " after forget", m.run(), MessageMachine.STUCK);
-            new Program(m).main("(is 0 (new 1))");
-            check.due("no parent from before forget", m.value(), 0);
+            p.main("(is 0 (new " + c + "))");
+            check.due("no parent from before forget", m.value(), c == 0 ? 1 : 0);
+            p.method(c, s, "(setf 0 1)").main(send(s, "(new " + c + ")"));
+            check.due("no field from before forget", m.run(), MessageMachine.STUCK);
         }
     }
 

@@ -58,8 +58,8 @@ final class Machines {
     /** The same with two classes more, so that no more can be made. */
     static MessageMachine sixClasses(int stacked) {
         MessageMachine m = rich(stacked);
-        m.newClass(2, 1);
         m.newClass(-1, 0);
+        m.newClass(2, 1);
         return m;
     }
 }

@@ -26,6 +26,9 @@ public final class ModelTest {
         int deepDone = 0;
         for (int i = 0; i < PROGRAMS; i++) {
             ModelTest test = new ModelTest(i, check);
+            if (i % 2 == 0) {
+                test.ask(9, 1 + i / 2 % 50);
+            }
             if (i % 3 == 0) {
                 test.looseProgram();
             } else {

@@ -11,6 +11,9 @@
  * (then X Y Z ..) is (then (then X Y) Z) .., which keeps the stack low.
  */
 final class Program {
+    /** What tidy is called with on each machine that is made here; 0 is that it is not called. */
+    static int tidied = 0;
+
     private final MessageMachine machine;
     private String[] words;
     private int next;
@@ -21,14 +24,15 @@ final class Program {
 
     /** Makes a machine with this main term and no class. */
     static MessageMachine ofMain(String text) {
-        MessageMachine m = new MessageMachine();
-        new Program(m).main(text);
-        return m;
+        return of("main " + text);
     }
 
     /** Makes a machine by lines: class PARENT OWN, method C S TERM, main TERM, push TERM. */
     static MessageMachine of(String... lines) {
         MessageMachine m = new MessageMachine();
+        if (tidied != 0) {
+            m.tidy(tidied);
+        }
         Program program = new Program(m);
         for (String line : lines) {
             program.line(line);

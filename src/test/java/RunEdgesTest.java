@@ -47,6 +47,9 @@ public final class RunEdgesTest {
         deepAndTired();
         cutOff();
         tidyOverLongRuns();
+        tidyWhileValuesWait();
+        questionsChangeNothing();
+        longestRun();
         noCallThrows();
         manyCalls();
         check.end();
@@ -403,6 +406,20 @@ public final class RunEdgesTest {
         return Looks.run(m).replaceAll("depth.*", "");
     }
 
+    private static void questionsChangeNothing() {
+        check.said("A refused call answers the code named and changes nothing.");
+        for (int q = 0; q < QUESTIONS.size(); q++) {
+            ToIntFunction<MessageMachine> question = QUESTIONS.get(q);
+            check.unseen("question " + q, () -> Machines.rich(3), question, question.applyAsInt(Machines.rich(3)));
+            check.unseen("question " + q + " with 100 terms", () -> Machines.full(8), question, question.applyAsInt(Machines.full(8)));
+            check.unseen("question " + q + " of a new object", MessageMachine::new, question, question.applyAsInt(new MessageMachine()));
+        }
+        for (int k : new int[] {LOWEST, -1, 20, 21, GREATEST}) {
+            check.unseen("output(" + k + ")", () -> Machines.rich(3), m -> m.output(k), 0);
+            check.unseen("made(" + k + ")", () -> Machines.rich(3), m -> m.made(k), 0);
+        }
+    }
+
     private static void callsThatChangeIt() {
         check.said("tell of the run that run would make now");
         MessageMachine m = family("method 0 0 (print 4)", "main (send 0 (new 1))");
@@ -539,6 +556,51 @@ public final class RunEdgesTest {
             check.due("tidy(" + n + "): reach", m.reach(), 36);
             check.due("tidy(" + n + "): made", m.made(1), 54);
         }
+    }
+
+    /** Things that only a value that waits, a self, a variable of a method that has ended or a field leads to. */
+    private static void tidyWhileValuesWait() {
+        String[] methods = {"method 0 2 (+ (= v0 nil) (+ (is 0 self) (is 1 v1)))", "method 0 1 (then (setf 0 v0) (setf 1 (block -1 (= f0 v0))) self)",
+            "method 0 0 (call f1)", "method 0 3 (then (set 3 (new 2)) (block 4 (+ (is 2 v3) (is 1 v4))))",
+            "method 2 1 (then (loop v0 (then (new 0) (set 0 (- v0 1)))) v0)"};
+        String waste = "(send 1 (new 2) 25)";
+        String[] mains = {
+            "(send 2 (new 0) (then " + waste + " nil) (then " + waste + " (new 1)))",
+            "(then (set 0 (send 1 (new 0) (new 1))) " + waste + " (+ (send 0 v0) (is 0 v0)))",
+            "(call (then (set 1 (send 3 (new 0))) " + waste + " v1) (then " + waste + " (new 1)))",
+            "(+ (is 1 (send 1 (new 1) (then " + waste + " (new 2)))) (is 2 (then " + waste + " (new 2))))",
+            "(= (set 0 (new 1)) (then " + waste + " v0))",
+            "(= (new 1) (then " + waste + " (new 1)))",
+            "(= (block -1 1) (then " + waste + " (block -1 1)))",
+        };
+        int[] due = {3, 2, 2, 2, 1, 0, 0};
+        int[] made = {51, 26, 51, 50, 25, 25, 25};
+        for (int n = 0; n <= 50; n++) {
+            Program.tidied = n;
+            for (int i = 0; i < mains.length; i++) {
+                MessageMachine m = family(methods);
+                new Program(m).main(mains[i]);
+                check.due("tidy(" + n + "), " + mains[i] + ": run", m.run(), DONE);
+                check.due("tidy(" + n + "), " + mains[i] + ": value", m.value(), due[i]);
+                check.due("tidy(" + n + "), " + mains[i] + ": made", m.made(0), made[i]);
+            }
+        }
+        Program.tidied = 0;
+    }
+
+    private static void longestRun() {
+        check.said("A turn: if 200 turns were taken before, the run ends TIRED, else it is counted.");
+        String deep = "(set 1 ".repeat(80) + "(+ v1 1)" + ")".repeat(80);
+        MessageMachine m = Program.ofMain("(then (set 1 0) (loop (< v1 (* 2 99)) " + deep + ") (print v1))");
+        check.due("198 times over 80 terms: run", m.run(), DONE);
+        check.due("198 times over 80 terms: turns", m.turns(), 198);
+        check.due("198 times over 80 terms: value", m.value(), 198);
+        m = Program.ofMain("(then (set 1 0) (loop 1 " + deep + ") (print v1))");
+        check.due("over and over: run", m.run(), TIRED);
+        m = Program.of("class -1 0", "method 0 1 (choose v0 " + "(is 0 ".repeat(80) + "(send 1 self (- v0 1))" + ")".repeat(80) + " 0)",
+            "main (then (set 0 (new 0)) (loop 1 (send 1 v0 19)))");
+        check.due("over and over, 20 deep: run", m.run(), TIRED);
+        check.due("over and over, 20 deep: deepest", m.deepest(), 20);
     }
 
     private static final int[] EXTREMES = {LOWEST, LOWEST + 1, -100, -99, -7, -2, -1, 0, 1, 2, 3, 4, 5, 6, 7, 8, 9, 10, 20, 50, 51, 99, 100,

@@ -10,6 +10,15 @@ public final class TermEdgesTest {
     private static final Check check = new Check();
 
     public static void main(String[] args) {
+        // Housekeeping can't be seen, so all holds with and without it.
+        for (int tidied : new int[] {0, 1, 2, 50}) {
+            Program.tidied = tidied;
+            allTerms();
+        }
+        check.end();
+    }
+
+    private static void allTerms() {
         fieldsOfAnObject();
         argumentsOfMessages();
         methodMeant();
@@ -42,7 +51,6 @@ public final class TermEdgesTest {
         turnsRunOut();
         twentyUnderWay();
         stuckBeforeTheTurn();
-        check.end();
     }
 
     private static MessageMachine plain(String main) {
@@ -324,6 +332,14 @@ public final class TermEdgesTest {
             }
         }
         ends("X is worked out", family("main (is 0 (print 5))"), DONE, 0, 5);
+        String[] line = {"class -1 0", "class 0 0", "class 1 0", "class 2 0", "class 3 0", "class 4 0"};
+        for (int c = 0; c < 6; c++) {
+            for (int d = 0; d < 6; d++) {
+                MessageMachine m = Program.of(line);
+                new Program(m).main("(is " + c + " (new " + d + "))");
+                number("in a line of six, is " + c + " of an object of class " + d, m, c <= d ? 1 : 0);
+            }
+        }
     }
 
     private static void thenBoth() {
