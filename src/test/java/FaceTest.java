@@ -1,12 +1,20 @@
+import java.io.IOException;
 import java.lang.reflect.Constructor;
 import java.lang.reflect.Field;
 import java.lang.reflect.Method;
 import java.lang.reflect.Modifier;
+import java.nio.file.Files;
+import java.nio.file.Path;
 import java.util.Arrays;
 import java.util.Set;
 import java.util.TreeSet;
+import java.util.regex.Matcher;
+import java.util.regex.Pattern;
 
-/** The public face: the constants, the constructor and the methods, and no other member to be seen. */
+/**
+ * The public face: the constants, the constructor and the methods, and no other member to be seen. Is run from the
+ * root of the project.
+ */
 public final class FaceTest {
     private static final String[] METHODS = {
         "int newClass(int, int)", "int leaf(int, int)", "int one(int, int)", "int two(int, int)",
@@ -15,11 +23,31 @@ public final class FaceTest {
         "int turns()", "int deepest()", "int made(int)", "int reach()", "int tidy(int)",
     };
 
-    public static void main(String[] args) {
+    public static void main(String[] args) throws Exception {
         Check check = new Check();
         constants(check);
         members(check);
+        document(check);
         check.end();
+    }
+
+    /** The same, as it stands in the document. */
+    private static void document(Check check) throws IOException, ReflectiveOperationException {
+        String text = Files.readString(Path.of("../shared/DOC.md"));
+        String face = text.substring(text.indexOf("```java"), text.indexOf("## Terms"));
+        Matcher constant = Pattern.compile("public static final int (\\w+) = (-?\\d+);").matcher(face);
+        int constants = 0;
+        while (constant.find()) {
+            constants++;
+            check.due(constant.group(1), MessageMachine.class.getField(constant.group(1)).getInt(null), Integer.parseInt(constant.group(2)));
+        }
+        check.due("constants of the document", constants, 9);
+        Set<String> methods = new TreeSet<>();
+        Matcher method = Pattern.compile("public ((?:int|void) \\w+\\(.*?\\));").matcher(face);
+        while (method.find()) {
+            methods.add(method.group(1).replaceAll("int \\w+([,)])", "int$1"));
+        }
+        check.same("the methods of the document", methods.toString(), new TreeSet<>(Arrays.asList(METHODS)).toString());
     }
 
     private static void constants(Check check) {

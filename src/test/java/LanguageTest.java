@@ -32,6 +32,8 @@ public final class LanguageTest {
         test.words();
         test.arrays();
         test.methods();
+        test.loops();
+        test.initialisers();
         fields();
         check.end();
     }
@@ -109,6 +111,47 @@ public final class LanguageTest {
                 check.holds("line " + lines.get(i) + " has a constant as length", words.get(i + 2).equals("[")
                     && words.get(i + 3).matches("[A-Z_]+|[1-9]\\d*") && words.get(i + 4).equals("]") && words.get(i + 5).equals(";"));
             }
+        }
+    }
+
+    /** Each loop is a for over a counter that steps by one to a bound, and that nothing else changes. */
+    private void loops() {
+        for (int i = 0; i < words.size(); i++) {
+            check.holds("line " + lines.get(i) + " has no loop but for", !Set.of("while", "do").contains(words.get(i)));
+            if (words.get(i).equals("for")) {
+                int close = closing(i + 1);
+                String counter = words.get(i + 3);
+                String head = String.join(" ", words.subList(i, close + 1));
+                String end = counter + " (< \\w+|> = \\w+)( & & .*)?";
+                String step = counter + " (\\+ \\+|- -)";
+                check.holds("line " + lines.get(i) + " has a bound to be seen",
+                    head.matches("for \\( int " + counter + " = \\w+ ; " + end + " ; " + step + " \\)"));
+                check.holds("line " + lines.get(i) + " has a bound that its step goes to", head.contains(" < ") == head.endsWith("+ + )"));
+                int last = closing(close + 1);
+                for (int j = close; j < last; j++) {
+                    boolean changed = words.get(j).equals(counter) && Set.of("=", "+", "-").contains(words.get(j + 1))
+                        && Set.of("=", "+", "-").contains(words.get(j + 2)) || words.get(j).equals(counter) && words.get(j + 1).equals("=");
+                    check.holds("line " + lines.get(j) + " leaves the counter alone", !changed);
+                }
+            }
+        }
+    }
+
+    /** Fields get their values where they stand, without a call, and no other variable and no answer is an array. */
+    private void initialisers() {
+        for (int i = 0; i + 1 < words.size(); i++) {
+            check.holds("line " + lines.get(i) + " has no static initialiser", !(words.get(i).equals("static") && words.get(i + 1).equals("{")));
+            if (words.get(i).equals("[") && words.get(i + 1).equals("]")) {
+                check.holds("line " + lines.get(i) + " has its array in a private final field",
+                    words.get(i - 3).equals("private") && words.get(i - 2).equals("final") && words.get(i + 3).equals("="));
+                check.holds("line " + lines.get(i) + " has one dimension", words.get(i + 4).equals("new") && !words.get(i + 2).equals("["));
+            }
+            boolean inMethod = false;
+            for (int[] body : bodies.values()) {
+                inMethod |= body[0] < i && i < body[1];
+            }
+            check.holds("line " + lines.get(i) + " begins a field's value with no call",
+                inMethod || !words.get(i).equals("=") || !isCall(i + 1));
         }
     }
 
